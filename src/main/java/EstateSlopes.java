@@ -554,7 +554,7 @@ public final class EstateSlopes {
         }
 
         boolean hasCell(int c) {
-            return c >= 0 && c < cells() && c < MOST_CELLS;
+            return c >= 0 && c < rows * columns && c < MOST_CELLS;
         }
 
         boolean hasColumn(int x) {
@@ -805,8 +805,10 @@ public final class EstateSlopes {
         int firstThatStops(Estate estate, Ride ride, int c) {
             for (int x = 0; x < estate.columns; x++) {
                 for (int w = 1; w <= MOST_WEIGHT; w++) {
-                    for (int i = 0; i <= 2 * estate.rows; i++) {
-                        int h = heelsAt(i, estate.rows);
+                    ride.run(estate, x, w, 0);
+                    int reach = ride.length;
+                    for (int i = 0; i <= 2 * reach; i++) {
+                        int h = heelsAt(i, reach);
                         ride.run(estate, x, w, h);
                         if (ride.end == c) {
                             return codeOf(x, w, h);
@@ -823,8 +825,10 @@ public final class EstateSlopes {
             taken = NONE;
             for (int x = 0; x < estate.columns; x++) {
                 for (int w = 1; w <= MOST_WEIGHT; w++) {
-                    for (int i = 0; i <= 2 * estate.rows; i++) {
-                        int h = heelsAt(i, estate.rows);
+                    ride.run(estate, x, w, 0);
+                    int reach = ride.length;
+                    for (int i = 0; i <= 2 * reach; i++) {
+                        int h = heelsAt(i, reach);
                         ride.run(estate, x, w, h);
                         int many = ride.cellsThatAre(estate, f, its);
                         if (many > taken) {
@@ -836,9 +840,9 @@ public final class EstateSlopes {
             }
         }
 
-        /** Heels in rows that are not there are left out: they are as none, which comes first. */
-        private static int heelsAt(int i, int rows) {
-            return i <= rows ? i : i - rows + TO_THE_RIGHT;
+        /** Heels in rows out of reach are left out: they are as none, which comes first. */
+        private static int heelsAt(int i, int reach) {
+            return i <= reach ? i : i - reach + TO_THE_RIGHT;
         }
 
         private static int codeOf(int x, int w, int h) {

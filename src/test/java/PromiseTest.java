@@ -240,6 +240,7 @@ public final class PromiseTest {
         due("heels in the last row stop it", s.stops(0, 7, 3), 8);
         due("heels in the last row", s.stops(0, 8, 13), 99);
         due("heels in no such row", s.stops(0, 7, 4), 99);
+        due("heels in no such row 8", s.stops(0, 7, 8), 99);
         due("heels in no such row 18", s.stops(0, 7, 18), 99);
         due("20 on ice is 20", laid("r11;r22;r22;r22;r22;").stops(0, 20, 0), 8);
         due("stops gives nothing", s.count(3) + s.count(5) + s.count(7), 0);
@@ -416,6 +417,10 @@ public final class PromiseTest {
         due("aim 99", s.aim(99), BAD);
         due("heels come last", laid("r00;r00;").aim(2), 300);
         due("none stops on ice", laid("r11;r00;").aim(0), NONE);
+        // A road leaves 9 of 20, but 8 of 19, and each snow takes 2: the last row takes weight 20.
+        EstateSlopes far = laid("r33;r00;r00;r00;r00;r00;");
+        due("aim by weight 20", far.aim(10), 2000);
+        due("aim by weight 20 in the last column", far.aim(11), 12000);
         due("aim is no slide", s.count(5) + s.count(7), 0);
     }
 
