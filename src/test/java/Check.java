@@ -11,6 +11,14 @@ final class Check {
         }
     }
 
+    void due(String what, String got, String want) {
+        asked++;
+        if (!got.equals(want)) {
+            wrong++;
+            System.out.println(what + " is " + got + ", due is " + want);
+        }
+    }
+
     void holds(String what, boolean so) {
         asked++;
         if (!so) {

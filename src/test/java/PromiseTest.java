@@ -45,27 +45,6 @@ public final class PromiseTest {
         check.due(call, got, want);
     }
 
-    private static void type(EstateSlopes s, String text) {
-        for (int i = 0; i < text.length(); i++) {
-            s.write(text.charAt(i));
-        }
-    }
-
-    private static EstateSlopes laid(String text) {
-        EstateSlopes s = new EstateSlopes();
-        type(s, text);
-        if (s.lay() < 0) {
-            throw new IllegalStateException("not laid: " + text);
-        }
-        return s;
-    }
-
-    private static int faultOf(String text) {
-        EstateSlopes s = new EstateSlopes();
-        type(s, text);
-        return s.fault();
-    }
-
     /** Promise 1 */
     private void newObject() {
         EstateSlopes s = new EstateSlopes();
@@ -112,7 +91,7 @@ public final class PromiseTest {
     private void wipe() {
         EstateSlopes s = new EstateSlopes();
         due("wipe nothing", s.wipe(), 0);
-        type(s, "r00;r");
+        Slopes.type(s, "r00;r");
         due("wipe five", s.wipe(), 5);
         due("wiped", s.count(9), 0);
         due("wiped: no fault", s.fault(), NONE);
@@ -127,45 +106,45 @@ public final class PromiseTest {
     /** Promise 4 */
     private void fault() {
         String eight = "r00;r00;r00;r00;r00;r00;r00;r00;";
-        due("fault of nothing", faultOf(""), NONE);
-        due("two cells a row", faultOf("r03;"), NONE);
-        due("six cells a row", faultOf("r012301;"), NONE);
-        due("one cell a row", faultOf("r0;"), 0);
-        due("seven cells a row", faultOf("r0123012;"), 0);
-        due("no cell a row", faultOf("r;"), 0);
-        due("a thing 4", faultOf("r04;"), 0);
-        due("a thing before 0", faultOf("r0/;"), 0);
-        due("a sign in a row", faultOf("r0,0;"), 0);
-        due("no end", faultOf("r00"), 0);
-        due("no end of the second", faultOf("r00;r00"), 4);
-        due("a shorter row", faultOf("r000;r00;"), 5);
-        due("a longer row", faultOf("r00;r000;"), 4);
-        due("eight rows", faultOf(eight), NONE);
-        due("nine rows", faultOf(eight + "r00;"), 32);
-        due("an unknown letter", faultOf("r00;x00;"), 4);
-        due("a large letter", faultOf("R00;"), 0);
-        due("an empty item", faultOf("r00;;"), 4);
-        due("a space", faultOf("r00; r00;"), 4);
-        due("an owner", faultOf("r00;o1,3;"), NONE);
-        due("a row behind an owner", faultOf("r00;o1,3;r00;o2,0;"), NONE);
-        due("a cell that is told later", faultOf("r00;o2,3;r00;"), 4);
-        due("a cell that is not told", faultOf("r00;r00;o4,0;"), 8);
-        due("an owner ahead of all", faultOf("o0,0;r00;"), 0);
-        due("two figures", faultOf("r00;o01,03;"), NONE);
-        due("three figures of a cell", faultOf("r00;o001,3;"), 4);
-        due("three figures of a side", faultOf("r00;o1,003;"), 4);
-        due("a side 4", faultOf("r00;o1,4;"), 4);
-        due("a side 10", faultOf("r00;o1,10;"), 4);
-        due("no side", faultOf("r00;o1,;"), 4);
-        due("no cell", faultOf("r00;o,1;"), 4);
-        due("no comma", faultOf("r00;o1;"), 4);
-        due("a third number", faultOf("r00;o1,1,1;"), 4);
-        due("an owner without end", faultOf("r00;o1,1"), 4);
-        due("a lone letter", faultOf("r00;o"), 4);
-        due("the first of two faults", faultOf("r00;o9,1;r0;"), 4);
-        due("cell 47", faultOf("r000000;".repeat(8) + "o47,0;"), NONE);
-        due("cell 48", faultOf("r000000;".repeat(8) + "o48,0;"), 64);
-        EstateSlopes s = laid("r00;r00;o1,3;");
+        due("fault of nothing", Slopes.faultOf(""), NONE);
+        due("two cells a row", Slopes.faultOf("r03;"), NONE);
+        due("six cells a row", Slopes.faultOf("r012301;"), NONE);
+        due("one cell a row", Slopes.faultOf("r0;"), 0);
+        due("seven cells a row", Slopes.faultOf("r0123012;"), 0);
+        due("no cell a row", Slopes.faultOf("r;"), 0);
+        due("a thing 4", Slopes.faultOf("r04;"), 0);
+        due("a thing before 0", Slopes.faultOf("r0/;"), 0);
+        due("a sign in a row", Slopes.faultOf("r0,0;"), 0);
+        due("no end", Slopes.faultOf("r00"), 0);
+        due("no end of the second", Slopes.faultOf("r00;r00"), 4);
+        due("a shorter row", Slopes.faultOf("r000;r00;"), 5);
+        due("a longer row", Slopes.faultOf("r00;r000;"), 4);
+        due("eight rows", Slopes.faultOf(eight), NONE);
+        due("nine rows", Slopes.faultOf(eight + "r00;"), 32);
+        due("an unknown letter", Slopes.faultOf("r00;x00;"), 4);
+        due("a large letter", Slopes.faultOf("R00;"), 0);
+        due("an empty item", Slopes.faultOf("r00;;"), 4);
+        due("a space", Slopes.faultOf("r00; r00;"), 4);
+        due("an owner", Slopes.faultOf("r00;o1,3;"), NONE);
+        due("a row behind an owner", Slopes.faultOf("r00;o1,3;r00;o2,0;"), NONE);
+        due("a cell that is told later", Slopes.faultOf("r00;o2,3;r00;"), 4);
+        due("a cell that is not told", Slopes.faultOf("r00;r00;o4,0;"), 8);
+        due("an owner ahead of all", Slopes.faultOf("o0,0;r00;"), 0);
+        due("two figures", Slopes.faultOf("r00;o01,03;"), NONE);
+        due("three figures of a cell", Slopes.faultOf("r00;o001,3;"), 4);
+        due("three figures of a side", Slopes.faultOf("r00;o1,003;"), 4);
+        due("a side 4", Slopes.faultOf("r00;o1,4;"), 4);
+        due("a side 10", Slopes.faultOf("r00;o1,10;"), 4);
+        due("no side", Slopes.faultOf("r00;o1,;"), 4);
+        due("no cell", Slopes.faultOf("r00;o,1;"), 4);
+        due("no comma", Slopes.faultOf("r00;o1;"), 4);
+        due("a third number", Slopes.faultOf("r00;o1,1,1;"), 4);
+        due("an owner without end", Slopes.faultOf("r00;o1,1"), 4);
+        due("a lone letter", Slopes.faultOf("r00;o"), 4);
+        due("the first of two faults", Slopes.faultOf("r00;o9,1;r0;"), 4);
+        due("cell 47", Slopes.faultOf("r000000;".repeat(8) + "o47,0;"), NONE);
+        due("cell 48", Slopes.faultOf("r000000;".repeat(8) + "o48,0;"), 64);
+        EstateSlopes s = Slopes.laid("r00;r00;o1,3;");
         s.slide(0, 0, 20, 0);
         s.fault();
         due("fault changes nothing", s.holds(0), 2);
@@ -176,17 +155,17 @@ public final class PromiseTest {
     private void lay() {
         EstateSlopes s = new EstateSlopes();
         due("lay nothing", s.lay(), NO);
-        type(s, "r13;");
+        Slopes.type(s, "r13;");
         due("lay one row", s.lay(), NO);
         s.wipe();
-        type(s, "r13;r02;o9,9;");
+        Slopes.type(s, "r13;r02;o9,9;");
         due("lay a fault", s.lay(), NO);
         due("not laid", s.count(0), 24);
         s.keep();
         s.seen(0, 5, 12);
         s.dig(0, 1);
         s.wipe();
-        type(s, "r13;o0,2;o0,1;r02;");
+        Slopes.type(s, "r13;o0,2;o0,1;r02;");
         due("lay two rows", s.lay(), 4);
         int[] counts = {4, 2, 2, 1, 1, 0, 0, 0, 0, 18};
         for (int i = 0; i < counts.length; i++) {
@@ -203,7 +182,7 @@ public final class PromiseTest {
         due("laid again: owner", s.cell(0, 1), 1);
         due("laid again: nobody's", s.holds(3), 0);
         due("slides so far stay", s.count(5), 1);
-        due("lay the most", laid("r000000;".repeat(8)).count(0), 48);
+        due("lay the most", Slopes.laid("r000000;".repeat(8)).count(0), 48);
     }
 
     /** Promise 6 */
@@ -221,7 +200,7 @@ public final class PromiseTest {
 
     /** Promise 7 */
     private void stops() {
-        EstateSlopes s = laid("r0123;r0000;r0000;");
+        EstateSlopes s = Slopes.laid("r0123;r0000;r0000;");
         due("snow 2", s.stops(0, 2, 0), 0);
         due("snow 3", s.stops(0, 3, 0), 4);
         due("ice 1", s.stops(1, 1, 0), 5);
@@ -242,7 +221,7 @@ public final class PromiseTest {
         due("heels in no such row", s.stops(0, 7, 4), 99);
         due("heels in no such row 8", s.stops(0, 7, 8), 99);
         due("heels in no such row 18", s.stops(0, 7, 18), 99);
-        due("20 on ice is 20", laid("r11;r22;r22;r22;r22;").stops(0, 20, 0), 8);
+        due("20 on ice is 20", Slopes.laid("r11;r22;r22;r22;r22;").stops(0, 20, 0), 8);
         due("stops gives nothing", s.count(3) + s.count(5) + s.count(7), 0);
         int[][] wrong = {{-1, 5, 0}, {4, 5, 0}, {0, 0, 0}, {0, 21, 0}, {0, 5, -1}, {0, 5, 9}, {0, 5, 10}, {0, 5, 19}};
         for (int[] w : wrong) {
@@ -252,7 +231,7 @@ public final class PromiseTest {
 
     /** Promise 8 */
     private void track() {
-        EstateSlopes s = laid("r012;r000;r333;");
+        EstateSlopes s = Slopes.laid("r012;r000;r333;");
         due("cell in row 0", s.track(1, 9, 0, 0, 0), 1);
         due("speed behind ice", s.track(1, 9, 0, 0, 1), 10);
         due("cell in row 2", s.track(1, 9, 0, 2, 0), 7);
@@ -351,7 +330,7 @@ public final class PromiseTest {
 
     /** Promise 13 */
     private void frost() {
-        EstateSlopes s = laid("r0123;r1313;r2222;");
+        EstateSlopes s = Slopes.laid("r0123;r1313;r2222;");
         due("frost 0", s.frost(0), 2);
         int[] then = {1, 1, 0, 3, 1, 3, 1, 3, 2, 2, 2, 2};
         for (int c = 0; c < then.length; c++) {
@@ -407,7 +386,7 @@ public final class PromiseTest {
 
     /** Promise 15 */
     private void aim() {
-        EstateSlopes s = laid("r10;r30;");
+        EstateSlopes s = Slopes.laid("r10;r30;");
         due("aim 0", s.aim(0), NONE);
         due("aim 1", s.aim(1), 10100);
         due("aim 2", s.aim(2), 100);
@@ -415,10 +394,10 @@ public final class PromiseTest {
         due("aim -1", s.aim(-1), BAD);
         due("aim 4", s.aim(4), BAD);
         due("aim 99", s.aim(99), BAD);
-        due("heels come last", laid("r00;r00;").aim(2), 300);
-        due("none stops on ice", laid("r11;r00;").aim(0), NONE);
+        due("heels come last", Slopes.laid("r00;r00;").aim(2), 300);
+        due("none stops on ice", Slopes.laid("r11;r00;").aim(0), NONE);
         // A road leaves 9 of 20, but 8 of 19, and each snow takes 2: the last row takes weight 20.
-        EstateSlopes far = laid("r33;r00;r00;r00;r00;r00;");
+        EstateSlopes far = Slopes.laid("r33;r00;r00;r00;r00;r00;");
         due("aim by weight 20", far.aim(10), 2000);
         due("aim by weight 20 in the last column", far.aim(11), 12000);
         due("aim is no slide", s.count(5) + s.count(7), 0);
@@ -426,13 +405,13 @@ public final class PromiseTest {
 
     /** Promise 16 */
     private void gain() {
-        EstateSlopes s = laid("r10;r30;o0,1;o3,1;");
+        EstateSlopes s = Slopes.laid("r10;r30;o0,1;o3,1;");
         due("gain 0: which", s.gain(0, 0), 100);
         due("gain 0: how many", s.gain(0, 1), 2);
         due("gain 1: which", s.gain(1, 0), 10401);
         due("gain 1: how many", s.gain(1, 1), 4);
-        due("gain of all", laid("r11;r11;o0,2;o1,2;o2,2;o3,2;").gain(2, 0), 100);
-        due("gain of all: how many", laid("r11;r11;o0,2;o1,2;o2,2;o3,2;").gain(2, 1), 4);
+        due("gain of all", Slopes.laid("r11;r11;o0,2;o1,2;o2,2;o3,2;").gain(2, 0), 100);
+        due("gain of all: how many", Slopes.laid("r11;r11;o0,2;o1,2;o2,2;o3,2;").gain(2, 1), 4);
         due("gain -1", s.gain(-1, 0), BAD);
         due("gain 4", s.gain(4, 0), BAD);
         due("gain what 2", s.gain(0, 2), BAD);
@@ -442,12 +421,12 @@ public final class PromiseTest {
 
     /** Promise 17 */
     private void spoil() {
-        EstateSlopes s = laid("r10;r30;o0,1;o3,1;");
+        EstateSlopes s = Slopes.laid("r10;r30;o0,1;o3,1;");
         due("spoil 1: which", s.spoil(0, 1, 0), 111);
         due("spoil 1: how many", s.spoil(0, 1, 1), 0);
         due("spoil one with nothing: which", s.spoil(1, 0, 0), 100);
         due("spoil one with nothing: how many", s.spoil(1, 0, 1), 0);
-        EstateSlopes part = laid("r000;r000;o2,3;o3,3;o5,3;");
+        EstateSlopes part = Slopes.laid("r000;r000;o2,3;o3,3;o5,3;");
         due("spoil part: which", part.spoil(0, 3, 0), 20300);
         due("spoil part: how many", part.spoil(0, 3, 1), 1);
         due("spoil alike", s.spoil(1, 1, 0), BAD);
@@ -460,7 +439,7 @@ public final class PromiseTest {
 
     /** Promise 18 */
     private void cure() {
-        EstateSlopes s = laid("r10;r30;");
+        EstateSlopes s = Slopes.laid("r10;r30;");
         due("cure to 0", s.cure(0, 3, 0, 0), 2);
         due("cure to 2", s.cure(0, 3, 0, 2), 0);
         due("it does as it is", s.cure(0, 2, 0, 2), NONE);
@@ -481,7 +460,7 @@ public final class PromiseTest {
     /** Promise 19 */
     private void pieces() {
         String corners = "o0,1;o2,1;o4,1;o6,1;o8,1;";
-        EstateSlopes s = laid("r000;r000;r000;" + corners);
+        EstateSlopes s = Slopes.laid("r000;r000;r000;" + corners);
         due("by corners they are apart", s.pieces(1), 5);
         s.give(1, 1);
         due("beside in a row and a column", s.pieces(1), 3);
@@ -491,14 +470,14 @@ public final class PromiseTest {
         due("apart again", s.pieces(1), 3);
         due("no cells", s.pieces(3), 0);
         due("the end of a row and the next one's start",
-                laid("r000;r000;o2,0;o3,0;").pieces(0), 2);
+                Slopes.laid("r000;r000;o2,0;o3,0;").pieces(0), 2);
         due("pieces -1", s.pieces(-1), BAD);
         due("pieces 4", s.pieces(4), BAD);
     }
 
     /** Promise 20 */
     private void bridge() {
-        EstateSlopes s = laid("r0000;r0000;r0000;o0,2;o11,2;o6,2;o3,1;");
+        EstateSlopes s = Slopes.laid("r0000;r0000;r0000;o0,2;o11,2;o6,2;o3,1;");
         due("bridge from corner to corner", s.bridge(2, 0, 11), 3);
         due("bridge back", s.bridge(2, 11, 0), 3);
         due("bridge to itself", s.bridge(2, 6, 6), 0);
@@ -515,7 +494,7 @@ public final class PromiseTest {
     }
 
     private static EstateSlopes detour() {
-        return laid("r0000;r0000;r0000;o0,0;o4,0;o8,0;o9,0;o10,0;o11,0;o7,0;o3,0;");
+        return Slopes.laid("r0000;r0000;r0000;o0,0;o4,0;o8,0;o9,0;o10,0;o11,0;o7,0;o3,0;");
     }
 
     /** Promise 21 */
@@ -553,7 +532,7 @@ public final class PromiseTest {
 
     /** Promise 23 */
     private void lies() {
-        EstateSlopes s = laid("r00;r00;");
+        EstateSlopes s = Slopes.laid("r00;r00;");
         due("nothing seen", s.lies(0), 15);
         s.seen(0, 3, 2);
         due("snow or road in cell 0", s.lies(0), 1);
@@ -574,7 +553,7 @@ public final class PromiseTest {
 
     /** Promise 24 */
     private void heavy() {
-        EstateSlopes s = laid("r023;r003;");
+        EstateSlopes s = Slopes.laid("r023;r003;");
         due("heavy 0 0: how many", s.heavy(0, 0, 0), 2);
         due("heavy 0 0: least", s.heavy(0, 0, 1), 1);
         due("heavy 0 3: how many", s.heavy(0, 3, 0), 2);
@@ -600,7 +579,7 @@ public final class PromiseTest {
 
     /** Promise 25 */
     private void likely() {
-        EstateSlopes s = laid("r00;r00;");
+        EstateSlopes s = Slopes.laid("r00;r00;");
         odds(s, 2, 0, 3, 7, 10);
         odds(s, 2, 2, 3, 0, 1);
         odds(s, 2, 99, 3, 3, 10);
@@ -611,11 +590,11 @@ public final class PromiseTest {
         odds(s, 2, 0, 10, 0, 1);
         odds(s, 2, 99, 10, 1, 1);
         odds(s, 2, 1, 5, 0, 1);
-        EstateSlopes deep = laid("r20;".repeat(8));
+        EstateSlopes deep = Slopes.laid("r20;".repeat(8));
         // Behind seven rows: speed 8 by 1 way of ten million, speed 2 by 18.
         odds(deep, 1, 14, 1, 81, 50000000);
         odds(deep, 1, 99, 1, 7, 25000000);
-        odds(laid("r00;".repeat(8)), 15, 14, 1, 43046721, 100000000);
+        odds(Slopes.laid("r00;".repeat(8)), 15, 14, 1, 43046721, 100000000);
         int[][] wrong = {{-1, 1, 0, 5, 0}, {2, 1, 0, 5, 0}, {0, 0, 0, 5, 0}, {0, 21, 0, 5, 0}, {0, 1, 4, 5, 0},
             {0, 1, -1, 5, 0}, {0, 1, 0, -1, 0}, {0, 1, 0, 11, 0}, {0, 1, 0, 5, 2}, {0, 1, 0, 5, -1}};
         for (int[] w : wrong) {
@@ -626,17 +605,17 @@ public final class PromiseTest {
     /** Promise 26 */
     private void winter() {
         // By z 0, thing 0: x 1, DRAW 0: cell 0 is dug, snow lies on it.
-        EstateSlopes s = laid("r11;r11;");
+        EstateSlopes s = Slopes.laid("r11;r11;");
         due("one thing: sides", s.winter(0, 1, 0), 0);
         due("one thing: ice", s.winter(0, 1, 1), 3);
         due("one thing: sea", s.winter(0, 1, 2), 0);
         // Thing 1: x 6152, its square 37847104 modulo 65521 is 41487, DRAW 20743:
         // cell 3, kind 324 modulo 4 = 0, dug, 81 modulo 4 = 1: ice.
         due("two things: ice", s.winter(0, 2, 1), 3);
-        due("two things on snow: ice", laid("r00;r00;").winter(0, 2, 1), 1);
+        due("two things on snow: ice", Slopes.laid("r00;r00;").winter(0, 2, 1), 1);
         // By z 2, thing 0: x 15839, 250873921 modulo 65521 is 59533, DRAW 29766:
         // cell 2, kind 465 modulo 4 = 1: a frost in row 1.
-        due("a frost: ice", laid("r00;r20;").winter(2, 1, 1), 1);
+        due("a frost: ice", Slopes.laid("r00;r20;").winter(2, 1, 1), 1);
         // By z 1, thing 0: x 7920, 62726400 modulo 65521 is 22803, DRAW 11401:
         // cell 1, kind 178 modulo 4 = 2: side 712 modulo 4 = 0 slides in column 1 with 44 modulo 20 and 1.
         due("a slide: sides", s.winter(1, 1, 0), 2);
@@ -681,7 +660,7 @@ public final class PromiseTest {
         s.frost(5);
         s.slide(1, 0, 13, 0);
         s.seen(0, 5, 12);
-        type(s, "r0");
+        Slopes.type(s, "r0");
         due("back to the last", s.back(), 1);
         due("whose then", s.holds(2), 7);
         due("what lay then", s.cell(3, 0), 2);
@@ -701,7 +680,7 @@ public final class PromiseTest {
 
     /** Promise 29 */
     private void count() {
-        EstateSlopes s = laid("r011;r230;o1,3;");
+        EstateSlopes s = Slopes.laid("r011;r230;o1,3;");
         s.slide(0, 0, 1, 0);
         s.slide(1, 1, 1, 0);
         s.undo();
