@@ -75,6 +75,13 @@ final class BestSentences {
         on.due("its own cell is not had twice: which", s.gain(0, 0), 10300);
         on.due("its own cell is not had twice: how many", s.gain(0, 1), 3);
         EstateSlopes own = Slopes.laid("r11;r11;o0,2;o1,2;o2,2;o3,2;");
+        EstateSlopes last = Slopes.laid("r33;r00;r00;r00;r00;r00;");
+        on.due("weight 20 alone: which", last.gain(2, 0), 2000);
+        on.due("weight 20 alone: how many", last.gain(2, 1), 6);
+        // By heels in row 1 it would stop there, by those in row 2 it comes to cell 5.
+        EstateSlopes later = Slopes.laid("r00;r11;r00;o0,1;o1,1;o2,1;o3,1;o4,1;");
+        on.due("heels behind a row where they would stop it: which", later.gain(1, 0), 312);
+        on.due("heels behind a row where they would stop it: how many", later.gain(1, 1), 6);
         on.due("all are its already: which", own.gain(2, 0), 100);
         on.due("all are its already: how many", own.gain(2, 1), 4);
         on.due("another one's cells become its: how many", own.gain(0, 1), 2);
@@ -118,6 +125,11 @@ final class BestSentences {
         EstateSlopes heels = Slopes.laid("r11;r11;o0,2;o3,2;");
         on.due("by heels: which", heels.spoil(0, 2, 0), 111);
         on.due("by heels: how many", heels.spoil(0, 2, 1), 0);
+        EstateSlopes last = Slopes.laid("r33;r00;r00;r00;r00;r00;o10,1;");
+        on.due("by weight 20 alone: which", last.spoil(0, 1, 0), 2000);
+        on.due("by weight 20 alone: how many", last.spoil(0, 1, 1), 0);
+        EstateSlopes later = Slopes.laid("r00;r11;r00;o5,2;");
+        on.due("by heels behind a row where they would stop it: which", later.spoil(0, 2, 0), 312);
         EstateSlopes far = Slopes.laid("r33;r22;r22;o4,1;");
         on.due("what only a heavy one comes to: which", far.spoil(0, 1, 0), 1400);
         on.due("what none comes to: how many", Slopes.laid("r33;r22;r22;r00;o6,1;").spoil(0, 1, 1), 1);
@@ -200,6 +212,8 @@ final class BestSentences {
         }
         on.due("all cells", chess.pieces(1), 1);
         on.due("a winding piece", winding().pieces(3), 1);
+        String cross = "r000;r000;r000;o1,0;o3,0;o4,0;o5,0;o7,0;";
+        on.due("a cross, to all four sides", Slopes.laid(cross).pieces(0), 1);
     }
 
     /** Rows 0, 2, 4 and 6 whole, joined by turns at the right and the left end. */
@@ -248,6 +262,8 @@ final class BestSentences {
         EstateSlopes cut = winding();
         cut.give(18, 4);
         on.due("a long way, one cell of it lost", cut.bridge(3, 0, 41), 1);
+        EstateSlopes beside = Slopes.laid("r000;r000;o0,0;o3,0;o5,0;");
+        on.due("from the cell below, over one", beside.bridge(0, 0, 5), 1);
         // Straight on there are three cells between, round by row 2 two.
         EstateSlopes round = Slopes.laid("r00000;r00000;r00000;o0,1;o4,1;o5,1;o11,1;o12,1;o13,1;o9,1;");
         on.due("round is less than straight on", round.bridge(1, 0, 4), 2);

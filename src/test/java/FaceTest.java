@@ -26,6 +26,7 @@ public final class FaceTest {
         Check check = new Check();
         checkMembers(check);
         checkMethods(check);
+        checkClassesInside(check);
         checkSource(check);
         check.close("FaceTest");
     }
@@ -70,10 +71,33 @@ public final class FaceTest {
         Collections.sort(want);
         Collections.sort(open);
         check.holds("the public methods are the document's, not " + open, open.equals(want));
-        for (String name : FACE) {
-            check.holds("no hidden method bears the name " + name,
-                    !hidden.contains(name.substring(0, name.indexOf(' '))));
+        for (String name : hidden) {
+            check.holds("the hidden method " + name + " does not bear a public name", !isPublicName(name));
         }
+    }
+
+    /** Rules 1, 2 and 11: static classes, some twelve, none with too much in it. */
+    private static void checkClassesInside(Check check) {
+        Class<?>[] inside = EstateSlopes.class.getDeclaredClasses();
+        check.holds("some twelve classes at most", inside.length + 1 <= 12);
+        for (Class<?> one : inside) {
+            check.holds(one + " is static and not public", Modifier.isStatic(one.getModifiers())
+                    && !Modifier.isPublic(one.getModifiers()) && !Modifier.isProtected(one.getModifiers()));
+            check.holds(one + " has some twenty fields at most", one.getDeclaredFields().length <= 20);
+            for (Method method : one.getDeclaredMethods()) {
+                check.holds(method + " takes seven at most", method.getParameterCount() <= 7);
+                check.holds(method + " does not bear a public name", !isPublicName(method.getName()));
+            }
+        }
+    }
+
+    private static boolean isPublicName(String name) {
+        for (String open : FACE) {
+            if (open.startsWith(name + " ")) {
+                return true;
+            }
+        }
+        return false;
     }
 
     private static void checkSource(Check check) throws Exception {

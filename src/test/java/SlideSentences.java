@@ -239,6 +239,9 @@ final class SlideSentences {
         on.due("speed where it stops", s.track(0, 5, 0, 2, 1), 0);
         on.due("behind where it stops: cell", s.track(0, 4, 0, 2, 0), NONE);
         on.due("behind where it stops: speed", s.track(0, 4, 0, 2, 1), NONE);
+        s.track(0, 20, 0, 2, 0);
+        on.due("two rows behind where it stops: cell", s.track(0, 1, 0, 2, 0), NONE);
+        on.due("two rows behind where it stops: speed", s.track(0, 1, 0, 2, 1), NONE);
         on.due("the last row of one to the sea", s.track(0, 20, 0, 2, 1), 14);
         on.due("no cell is given", s.count(3) + s.count(5) + s.count(7), 0);
         int[][] wrong = {{-1, 5, 0, 0, 0}, {2, 5, 0, 0, 0}, {0, 0, 0, 0, 0}, {0, 21, 0, 0, 0}, {0, 5, -1, 0, 0},
